@@ -704,7 +704,7 @@ public final class TubeWords {
     }
 
     private void doByLot(int lot) {
-        if (now.size == 0) {
+        if (now.size <= 0) {
             return;
         }
         int i = lot / 8 % now.size;

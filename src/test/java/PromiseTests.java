@@ -156,7 +156,9 @@ public final class PromiseTests {
         dueFinding(4, "at(0, 40)", x, x.at(0, 40), BEYOND);
         dueFinding(4, "at(0, lowest)", x, x.at(0, LOWEST), BEYOND);
 
+        x.lay(0, 0, 5);
         due(2, "row(0, 40)", x.row(0, 40), 40);
+        due(2, "place 0 anew", place(x, 0, 0), 0);
         due(2, "place 39 anew", place(x, 0, 39), 0);
         due(5, "tear(0)", x.tear(0), 1);
         dueFinding(5, "tear(0)", x, x.tear(0), NOTHING);
@@ -232,7 +234,9 @@ public final class PromiseTests {
         dueFinding(9, "put(1, 99, 0)", x, x.put(1, 99, 0), NOTHING);
         due(9, "put(4, 0, 0)", x.put(4, 0, 0), TubeWords.BAD);
         due(9, "put(-1, 0, 0)", x.put(-1, 0, 0), TubeWords.BAD);
+        x.put(3, 0, 65);
         x.text(3, 60);
+        due(8, "a TEXT anew is blank", x.put(3, 0, 0), 1032);
         due(8, "a TEXT anew is blank", x.put(3, 59, 0), 1032);
     }
 
@@ -245,13 +249,13 @@ public final class PromiseTests {
         };
         int[] want = {
             0, 3, -9, 3, 6, -9, 5, 4, 4, 6, 7,
-            1, 2, 1, 2, 2, 1, 1, 0, 3,
+            1, 2, 1, 2, 2, 1, 4, 0, 3,
             -9, -9, 22, 23,
             0, 4
         };
         TubeWords x = new TubeWords();
         for (int i = 0; i < texts.length; i++) {
-            int due = texts[i].equals("t99w00") ? 4 : want[i];
+            int due = want[i];
             x = new TubeWords();
             write(x, 1, texts[i]);
             due(10, "fault of '" + texts[i] + "'", x.fault(1), due);
@@ -522,6 +526,15 @@ public final class PromiseTests {
         due(34, "lots(1, 1) at 40 DEEDS", x.lots(1, 1), TubeWords.FULL);
         due(34, "lots(1, 0) at 40 DEEDS", x.lots(1, 0), TubeWords.BAD);
         due(38, "TICK", x.count(1), 20);
+        x.undo(39);
+        due(14, "tick(), the 40th DEED", x.tick() >= 0 ? 1 : 0, 1);
+        x.undo(39);
+        due(15, "set(1, 3), the 40th DEED", x.set(1, 3), 8);
+        x.undo(39);
+        due(16, "swap(0, 1), the 40th DEED", x.swap(0, 1), 1);
+        x.undo(39);
+        due(17, "word(1, 1), the 40th DEED", x.word(1, 1), 0);
+        due(38, "DEEDS", x.count(2), 40);
     }
 
     private static void undoing() {
@@ -570,6 +583,13 @@ public final class PromiseTests {
         due(18, "WAY", fact(x, 0, 4), 0);
         due(20, "on(1) again", x.on(1), 3);
         due(20, "digest()", x.digest(), kept);
+        x.undo(0);
+        x.set(1, 1);
+        x.tick();
+        x.tick();
+        x.tick();
+        due(20, "on(1) behind other DEEDS", x.on(1), 3);
+        due(20, "digest()", x.digest(), kept);
         due(20, "on(0)", x.on(0), 0);
         due(20, "PULSES", x.count(3), 0);
         due(19, "keep(1) over the one kept", x.keep(1), 0);
@@ -617,6 +637,7 @@ public final class PromiseTests {
             due(22, "heard of 1 in " + t, place(x, 5, t), slow[t]);
         }
         due(22, "hears(1, 20, 5)", x.hears(1, 20, 5), 7);
+        due(22, "hears(0, 1, 5)", x.hears(0, 1, 5), 1);
         due(22, "hears(1, 21, 5)", x.hears(1, 21, 5), TubeWords.BAD);
         due(22, "hears(1, 0, 5)", x.hears(1, 0, 5), TubeWords.BAD);
         due(22, "hears(1, 1, 6)", x.hears(1, 1, 6), TubeWords.BAD);
@@ -762,10 +783,22 @@ public final class PromiseTests {
         due(27, "safest(512)", x.safest(512), TubeWords.BAD);
         due(27, "safest(-1)", x.safest(-1), TubeWords.BAD);
         due(27, "PULSES as they were", x.count(3), 0);
+        ringOf("t90t90t90t90t90t90t60", 0, 60);
+        ringOf("t90t90t90t90t90t90t70", TubeWords.NONE, 0);
         TubeWords slow = laid("t30s30");
         slow.tick();
         due(27, "safest(1), one that does not MOVE", slow.safest(1), 1);
         due(27, "asked()", slow.asked(), 1);
+    }
+
+    /** All seven TUBES in one ring: a PULSE comes back behind as many TICKS as there are SLOTS. */
+    private static void ringOf(String text, int safest, int behind) {
+        TubeWords x = laid(text);
+        for (int i = 0; i < 6; i++) {
+            x.swap(i, i + 1);
+        }
+        due(27, "safest(1) in a ring of " + text, x.safest(1), safest);
+        due(27, "asked()", x.asked(), behind);
     }
 
     private static void heardFindings(int promise, String name, int call) {
@@ -835,6 +868,10 @@ public final class PromiseTests {
         fillRow(x, 0, 1, 1, 0, 1);
         due(29, "words of a WEAK one", x.words(1, 0), TubeWords.NONE);
         due(29, "WORD as it was", fact(x, 0, 3), 7);
+        TubeWords most = laid("t90t20");
+        fillRow(most, 0, 1, 1, 1, 1, 1, 1, 1, 1, 1);
+        due(29, "words of nine PULSES", most.words(0, 0), 1);
+        due(29, "asked()", most.asked(), 511);
     }
 
     private static void testing() {
@@ -873,6 +910,12 @@ public final class PromiseTests {
         due(31, "duel(2)", x.duel(2), 2);
         due(31, "duel(3)", x.duel(3), 3);
         due(31, "WORD as it was", fact(x, 0, 3), 3);
+        TubeWords first = laid("t20w20");
+        first.word(0, 1);
+        due(31, "duel(2), the first TUBE's is taken", first.duel(2), 0);
+        first.word(1, 1);
+        first.word(0, 2);
+        due(31, "duel(1), the first TUBE gets one", first.duel(1), 2);
         TubeWords weak = laid("w90t30");
         // what is in the WEAK one's SLOT 0 is lost in TICK 0
         due(31, "duel(1), the other TUBE", weak.duel(1), 1);
