@@ -617,7 +617,13 @@ public final class PromiseTests {
         due(21, "later(2, 0)", x.later(2, 0), TubeWords.BAD);
         due(21, "later(-1, 0)", x.later(-1, 0), TubeWords.BAD);
         ticks(x, 38);
-        due(21, "later beyond TICK 99's count of DEEDS", x.later(0, 60) >= 0 ? 1 : 0, 1);
+        due(21, "later(0, 60) from TICK 38", x.later(0, 60), fact(x, 0, 3));
+        TubeWords flip = laid("f30t20");
+        ticks(flip, 40);
+        due(21, "TICK", flip.count(1), 40);
+        // from TICK 0 on its WORDS are 0 4 2 5 6 7 7 3 5 2 1 0, and again; that goes on beyond TICK 99
+        due(21, "later(0, 59) from TICK 40", flip.later(0, 59), 5);
+        due(21, "later(0, 60) from TICK 40", flip.later(0, 60), 6);
     }
 
     private static void hearing() {
