@@ -65,6 +65,10 @@ public final class EdgesOfChances {
                 Edge.found(Edge.UNLIKE, RICH.row(5, v), call, 0, 5);
             }
         });
+        Edge.test(promise + ": what a longer ROW had ahead does not count", () -> {
+            Scene scene = Scene.store("t90t20").row(0, 0, 0, 9).then("row", 0, 2);
+            Edge.due(call + "(0, 0)", scene.play().ask(call, 0, 0) > 0 ? 1 : 0, 1);
+        });
         Edge.test(promise + ": one number, 20 numbers are taken", () -> {
             Scene bare = Scene.store("t90t20");
             Edge.due("one", bare.then("row", 0, 1).play().ask(call, 0, 0) > 0 ? 1 : 0, 1);
@@ -80,6 +84,11 @@ public final class EdgesOfChances {
         return row;
     }
 
+    /** Two TUBES that lead to one another. */
+    private static Scene swapped(String text, int... words) {
+        return Scene.store(text).then("swap", 0, 1).words(words);
+    }
+
     private static void kinds() {
         Edge.test("28: all KINDS, no KIND", () -> {
             Edge.changesNothing(63, Scene.store("t30t20").words(1).row(0, 1), "kinds", 0, 0);
@@ -91,6 +100,14 @@ public final class EdgesOfChances {
             Edge.changesNothing(1 + 4 + 8, scene.row(0, 1, 0, 0, 1), "kinds", 0, 0);
             Edge.changesNothing(2 + 16 + 32, scene.row(0, 1, 0, 0, 0), "kinds", 0, 0);
             Edge.changesNothing(16, scene.row(0, 1, 0, 0, 0, 0, 0, 1), "kinds", 0, 0);
+        });
+        Edge.test("28: each KIND alone, from the first to the last", () -> {
+            Edge.changesNothing(1, swapped("t20t30", 3, 3).row(0, 1, 1, 1, 1, 0), "kinds", 0, 0);
+            Edge.changesNothing(2, swapped("t20t30", 2, 1).row(0, 0, 1, 0, 0, 0), "kinds", 0, 0);
+            Edge.changesNothing(4, swapped("t21t30", 0, 7).row(0, 0, 0, 1, 1, 1, 1), "kinds", 0, 0);
+            Edge.changesNothing(8, swapped("t21t20", 1, 0).row(0, 1, 0, 0, 1), "kinds", 0, 0);
+            Edge.changesNothing(16, swapped("t20t30", 1, 2).row(0, 1, 0, 1), "kinds", 0, 0);
+            Edge.changesNothing(32, swapped("t20t30", 1, 5).row(0, 1, 0, 0, 0, 1), "kinds", 0, 0);
         });
         Edge.test("28: the TICKS in which it MOVES alone: a SLOW one tells 20 in 39 TICKS, or 40", () -> {
             Scene scene = Scene.store("s20t20").words(1);
@@ -154,6 +171,22 @@ public final class EdgesOfChances {
             Edge.tells(2, 2, Scene.store("t30t20").words(5).row(0, 0, 1), "words", 0, 0);
             Edge.tells(2, 2, Scene.store("t30t20").row(0, 0, 1), "words", 0, 0);
         });
+        Edge.test("29: all else as it is: the TICK, for each WORD that is tried", () -> {
+            // a WEAK one of two SLOTS: what comes out in TICKS 0, 2 is lost, in TICKS 1, 3 it is not
+            Scene weak = Scene.store("w20t20");
+            Edge.tells(1, 2, weak.row(0, 0, 1, 0, 1), "words", 0, 0);
+            Edge.tells(1, 3, weak.row(0, 1, 1, 0, 1), "words", 0, 0);
+            Edge.tells(1, 1, weak.then("tick").row(0, 1, 0, 1, 0), "words", 0, 0);
+            Edge.tells(1, 3, weak.then("tick").row(0, 1, 1, 1, 0), "words", 0, 0);
+        });
+        Edge.test("29: all else as it is: WAYS, other TUBES, for each WORD that is tried", () -> {
+            // what comes to TUBE 0 is what TUBE 1 has, and the other way
+            Scene led = Scene.store("t20t30").then("swap", 0, 1).words(0, 5);
+            Edge.tells(1, 0, led.row(0, 0, 0, 1, 0, 1), "words", 0, 0);
+            Edge.tells(1, 3, led.row(0, 1, 1, 1, 0, 1), "words", 0, 0);
+            Edge.tells(1, 2, led.row(0, 0, 1, 1, 0, 1, 0, 1, 1), "words", 0, 0);
+            Edge.changesNothing(Edge.NONE, led.row(0, 0, 0, 0), "words", 0, 0);
+        });
         Edge.test("29: of a SLOW one by the TICKS in which it MOVES", () -> {
             Edge.tells(1, 5, Scene.store("s30t20").row(0, again(20, 1, 0, 1)), "words", 0, 0);
             Edge.tells(1, 5, Scene.store("s30t20").then("tick").row(0, again(20, 1, 0, 1)), "words", 0, 0);
@@ -170,6 +203,10 @@ public final class EdgesOfChances {
         });
         Edge.test("30: behind 1 TICK, the least: one KIND is told apart at once", () ->
             Edge.tells(1, 1, Scene.store("t31t20").words(1).row(0, 1, 0, 0, 0, 0, 0, 1), "test", 0, 0));
+        Edge.test("30: one KIND alone, the first and the last: a part of 1", () -> {
+            Edge.tells(1, 1, swapped("t20t30", 3, 3).row(0, 1, 1, 1, 1, 0), "test", 0, 0);
+            Edge.tells(1, 1, swapped("t20t30", 1, 5).row(0, 1, 0, 0, 0, 1), "test", 0, 0);
+        });
         Edge.test("30: behind 1 TICK, the first of those alike", () -> {
             // nothing ever comes: all but FLIP ones are alike always
             Edge.tells(1, 5, Scene.store("t20t20").row(0, 0, 0, 0), "test", 0, 0);
@@ -505,6 +542,8 @@ public final class EdgesOfChances {
             sameAs("9 of 9 is 0", ends.then("lots", 1, seedFor(9 * 64 + 8 + 1)), ends.then("set", 1, 0));
             sameAs("1 of 2", ends.then("lots", 1, seedFor(64 + 1)), ends.then("set", 0, 1));
             sameAs("2 of 2 is 0", ends.then("lots", 1, seedFor(2 * 64 + 1)), ends.then("set", 0, 0));
+            sameAs("19 of 9 is 1", ends.then("lots", 1, seedFor(20 * 64 - 5)), ends.then("set", 1, 1));
+            sameAs("100 of 9 is 1", ends.then("lots", 1, seedFor(100 * 64 + 8 + 1)), ends.then("set", 1, 1));
         });
         Edge.test("34: a SLOT that has a PULSE loses it", () -> {
             Scene one = Scene.store("t20t90").words(0, 256);

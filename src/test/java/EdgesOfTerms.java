@@ -23,6 +23,14 @@ public final class EdgesOfTerms {
     // ---- what is refused
 
     private static void orderOfRefusals() {
+        Edge.test("BAD -1, FULL -2, STATE -4, SPENT -6, FINDING -3, NONE -9", () -> {
+            Edge.due("BAD", TubeWords.BAD, -1);
+            Edge.due("FULL", TubeWords.FULL, -2);
+            Edge.due("STATE", TubeWords.STATE, -4);
+            Edge.due("SPENT", TubeWords.SPENT, -6);
+            Edge.due("FINDING", TubeWords.FINDING, -3);
+            Edge.due("NONE", TubeWords.NONE, -9);
+        });
         Edge.test("BAD ahead of FULL: a number that is none, with 40 DEEDS", () -> {
             Edge.refused(Edge.BAD, FULL_OF_DEEDS, "set", 2, 0);
             Edge.refused(Edge.BAD, FULL_OF_DEEDS, "set", 0, 3);
