@@ -1,11 +1,8 @@
-import java.math.BigInteger;
-
 /** The edges of promises 28 to 34: which tube, which word it was, by turns, chances, lots. */
 public final class EdgesOfChances {
     private static final Scene RICH = Scenes.RICH;
     private static final Scene NO_TUBES = Scenes.NO_TUBES;
     private static final Scene FULL_OF_DEEDS = Scenes.FULL_OF_DEEDS;
-    private static final long LOT_MODULUS = 2147483647L;
 
     public static void main(String[] args) {
         heardRefused("28", "kinds");
@@ -414,13 +411,6 @@ public final class EdgesOfChances {
 
     // ---- lots
 
-    /** The seed by which the first number is this one. */
-    private static int seedFor(long first) {
-        BigInteger modulus = BigInteger.valueOf(LOT_MODULUS);
-        BigInteger back = BigInteger.valueOf(48271).modInverse(modulus);
-        return BigInteger.valueOf(first).multiply(back).mod(modulus).intValueExact();
-    }
-
     private static void lotsRefused() {
         Edge.test("34: BAD: fewer DEEDS than 1, more than 20", () -> {
             Edge.refused(Edge.BAD, RICH, "lots", 0, 1);
@@ -481,12 +471,12 @@ public final class EdgesOfChances {
         });
         Edge.test("34: each number comes from the one ahead, the first from the seed", () -> {
             Scene two = begun.then("lots", 2, 12345);
-            int second = (int) (12345 * 48271L % LOT_MODULUS);
+            int second = (int) (12345 * 48271L % Lots.MODULUS);
             sameAs("lots(2, 12345)", two, begun.then("lots", 1, 12345).then("lots", 1, second));
         });
         Edge.test("34: a number that is no int ahead of the modulus", () -> {
             // 2147483646 is -1: -48271, then 48271 times -48271
-            int second = (int) (LOT_MODULUS - 48271);
+            int second = (int) (Lots.MODULUS - 48271);
             sameAs("lots(2, 2147483646)", begun.then("lots", 2, 2147483646), begun.then("swap", 0, 1).then("lots", 1, second));
         });
         Edge.test("34: how many PULSES there are in all is answered, asked() is left", () -> {
@@ -494,8 +484,8 @@ public final class EdgesOfChances {
             Edge.answers(5, begun, "lots", 1, 1);
             Edge.answers(0, Scene.store("t20t20"), "lots", 1, 1);
             Scene set = Scene.store("t30t20").row(0, 77).then("at", 0, 0);
-            Edge.answers(1, set, "lots", 1, seedFor(1));
-            Edge.answers(77, set.then("lots", 1, seedFor(1)), "asked");
+            Edge.answers(1, set, "lots", 1, Lots.seedFor(1));
+            Edge.answers(77, set.then("lots", 1, Lots.seedFor(1)), "asked");
         });
         Edge.test("34: ROWS, TEXTS, kept STORES stay", () -> {
             Scene after = RICH.then("lots", 5, 1);
@@ -508,50 +498,50 @@ public final class EdgesOfChances {
     private static void lotsByOne() {
         Scene begun = Scene.store("t30w41s52").words(5, 9, 3).then("tick");
         Edge.test("34: modulo 8: 0 WAYS, 1 to 3 a SLOT, 4 to 7 a TICK", () -> {
-            sameAs("0", begun.then("lots", 1, seedFor(8)), begun.then("swap", 1, 2));
-            sameAs("1", begun.then("lots", 1, seedFor(9)), begun.then("set", 1, 0));
-            sameAs("2", begun.then("lots", 1, seedFor(10)), begun.then("set", 1, 0));
-            sameAs("3", begun.then("lots", 1, seedFor(11)), begun.then("set", 1, 0));
-            sameAs("4", begun.then("lots", 1, seedFor(12)), begun.then("tick"));
-            sameAs("5", begun.then("lots", 1, seedFor(13)), begun.then("tick"));
-            sameAs("6", begun.then("lots", 1, seedFor(14)), begun.then("tick"));
-            sameAs("7", begun.then("lots", 1, seedFor(15)), begun.then("tick"));
+            sameAs("0", begun.then("lots", 1, Lots.seedFor(8)), begun.then("swap", 1, 2));
+            sameAs("1", begun.then("lots", 1, Lots.seedFor(9)), begun.then("set", 1, 0));
+            sameAs("2", begun.then("lots", 1, Lots.seedFor(10)), begun.then("set", 1, 0));
+            sameAs("3", begun.then("lots", 1, Lots.seedFor(11)), begun.then("set", 1, 0));
+            sameAs("4", begun.then("lots", 1, Lots.seedFor(12)), begun.then("tick"));
+            sameAs("5", begun.then("lots", 1, Lots.seedFor(13)), begun.then("tick"));
+            sameAs("6", begun.then("lots", 1, Lots.seedFor(14)), begun.then("tick"));
+            sameAs("7", begun.then("lots", 1, Lots.seedFor(15)), begun.then("tick"));
         });
-        Edge.test("34: the least number, 1", () -> sameAs("1", begun.then("lots", 1, seedFor(1)), begun.then("set", 0, 0)));
+        Edge.test("34: the least number, 1", () -> sameAs("1", begun.then("lots", 1, Lots.seedFor(1)), begun.then("set", 0, 0)));
         Edge.test("34: the TUBE by 8, cut, modulo how many there are", () -> {
             int[] tubes = {0, 1, 2, 0, 1, 2, 0};
             for (int t = 0; t < tubes.length; t++) {
-                sameAs("TUBE " + t, begun.then("lots", 1, seedFor(8 * t + 1)), begun.then("set", tubes[t], 0));
+                sameAs("TUBE " + t, begun.then("lots", 1, Lots.seedFor(8 * t + 1)), begun.then("set", tubes[t], 0));
             }
         });
         Edge.test("34: behind the last one the first, of 2, 3, 7 TUBES", () -> {
-            sameAs("of 3", begun.then("lots", 1, seedFor(16)), begun.then("swap", 2, 0));
+            sameAs("of 3", begun.then("lots", 1, Lots.seedFor(16)), begun.then("swap", 2, 0));
             Scene two = Scene.store("t30t20").words(1);
-            sameAs("of 2", two.then("lots", 1, seedFor(8)), two.then("swap", 1, 0));
+            sameAs("of 2", two.then("lots", 1, Lots.seedFor(8)), two.then("swap", 1, 0));
             Scene seven = Scene.store("t20".repeat(7)).words(1);
-            sameAs("of 7", seven.then("lots", 1, seedFor(48)), seven.then("swap", 6, 0));
-            sameAs("of 7, the one ahead", seven.then("lots", 1, seedFor(40)), seven.then("swap", 5, 6));
-            sameAs("of 7, the first", seven.then("lots", 1, seedFor(56)), seven.then("swap", 0, 1));
+            sameAs("of 7", seven.then("lots", 1, Lots.seedFor(48)), seven.then("swap", 6, 0));
+            sameAs("of 7, the one ahead", seven.then("lots", 1, Lots.seedFor(40)), seven.then("swap", 5, 6));
+            sameAs("of 7, the first", seven.then("lots", 1, Lots.seedFor(56)), seven.then("swap", 0, 1));
         });
         Edge.test("34: the SLOT by 64, cut, modulo its LENGTH", () -> {
             Scene ends = Scene.store("t20t90");
-            sameAs("0 of 9", ends.then("lots", 1, seedFor(8 + 1)), ends.then("set", 1, 0));
-            sameAs("0 of 9, at 63", ends.then("lots", 1, seedFor(7 * 8 + 1)), ends.then("set", 1, 0));
-            sameAs("1 of 9", ends.then("lots", 1, seedFor(64 + 8 + 1)), ends.then("set", 1, 1));
-            sameAs("8 of 9", ends.then("lots", 1, seedFor(8 * 64 + 8 + 1)), ends.then("set", 1, 8));
-            sameAs("9 of 9 is 0", ends.then("lots", 1, seedFor(9 * 64 + 8 + 1)), ends.then("set", 1, 0));
-            sameAs("1 of 2", ends.then("lots", 1, seedFor(64 + 1)), ends.then("set", 0, 1));
-            sameAs("2 of 2 is 0", ends.then("lots", 1, seedFor(2 * 64 + 1)), ends.then("set", 0, 0));
-            sameAs("19 of 9 is 1", ends.then("lots", 1, seedFor(20 * 64 - 5)), ends.then("set", 1, 1));
-            sameAs("100 of 9 is 1", ends.then("lots", 1, seedFor(100 * 64 + 8 + 1)), ends.then("set", 1, 1));
+            sameAs("0 of 9", ends.then("lots", 1, Lots.seedFor(8 + 1)), ends.then("set", 1, 0));
+            sameAs("0 of 9, at 63", ends.then("lots", 1, Lots.seedFor(7 * 8 + 1)), ends.then("set", 1, 0));
+            sameAs("1 of 9", ends.then("lots", 1, Lots.seedFor(64 + 8 + 1)), ends.then("set", 1, 1));
+            sameAs("8 of 9", ends.then("lots", 1, Lots.seedFor(8 * 64 + 8 + 1)), ends.then("set", 1, 8));
+            sameAs("9 of 9 is 0", ends.then("lots", 1, Lots.seedFor(9 * 64 + 8 + 1)), ends.then("set", 1, 0));
+            sameAs("1 of 2", ends.then("lots", 1, Lots.seedFor(64 + 1)), ends.then("set", 0, 1));
+            sameAs("2 of 2 is 0", ends.then("lots", 1, Lots.seedFor(2 * 64 + 1)), ends.then("set", 0, 0));
+            sameAs("19 of 9 is 1", ends.then("lots", 1, Lots.seedFor(20 * 64 - 5)), ends.then("set", 1, 1));
+            sameAs("100 of 9 is 1", ends.then("lots", 1, Lots.seedFor(100 * 64 + 8 + 1)), ends.then("set", 1, 1));
         });
         Edge.test("34: a SLOT that has a PULSE loses it", () -> {
             Scene one = Scene.store("t20t90").words(0, 256);
-            Edge.answers(0, one, "lots", 1, seedFor(8 * 64 + 8 + 1));
+            Edge.answers(0, one, "lots", 1, Lots.seedFor(8 * 64 + 8 + 1));
         });
         Edge.test("34: the greatest number, 2147483646", () -> {
             // 6 modulo 8
-            sameAs("2147483646", begun.then("lots", 1, seedFor(2147483646L)), begun.then("tick"));
+            sameAs("2147483646", begun.then("lots", 1, Lots.seedFor(2147483646L)), begun.then("tick"));
         });
     }
 }
