@@ -679,7 +679,7 @@ public final class TubeWords {
         int v = deed & MOST_WORD;
         switch (deed >> 12) {
             case TICK_DEED:
-                now.goOn(1);
+                now.letPass();
                 break;
             case SLOT_DEED:
                 now.turnSlot(i, v);
@@ -1059,10 +1059,6 @@ public final class TubeWords {
             return 0;
         }
 
-        private boolean isStruck(int i) {
-            return ticksTillStruck(i) == 0;
-        }
-
         private int ticksTillStruck(int i) {
             int every = mark[i] + 2;
             return every > 0 ? (every - time % every) % every : 0;
@@ -1070,18 +1066,19 @@ public final class TubeWords {
 
         private int sentAs(int of, int i, int in) {
             boolean last = (word[i] >> length[i] - 1 & 1) == 1;
+            boolean struck = ticksTillStruck(i) == 0;
             switch (of) {
                 case WEAK:
-                    return isStruck(i) ? 0 : in;
+                    return struck ? 0 : in;
                 case ECHO:
-                    return last && isStruck(i) ? 1 : in;
+                    return last && struck ? 1 : in;
                 case FLIP:
-                    return isStruck(i) ? 1 - in : in;
+                    return struck ? 1 - in : in;
                 case DULL:
                     if (!last) {
                         return time % 3 == 0 ? 0 : in;
                     }
-                    return isStruck(i) ? 1 : in;
+                    return struck ? 1 : in;
                 default:
                     return in;
             }

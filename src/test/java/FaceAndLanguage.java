@@ -129,7 +129,77 @@ public final class FaceAndLanguage {
                 say("a call of the library that is not known to be fine: " + used);
             }
         }
+        if (Pattern.compile("\\b(while|do)\\b").matcher(code).find()) {
+            say("a loop without a counter in its head");
+        }
         methodLengths(code);
+        depthOfCalls(code);
+        fieldsOfClasses();
+    }
+
+    /** Rule 11: calls that are no recursion go at most eight deep, the library's own call counted, too. */
+    private static void depthOfCalls(String code) {
+        TreeMap<String, String> bodies = new TreeMap<>();
+        Matcher m = Pattern.compile("(?m)^( {4,8})(?:public|private)[^=;\n]*? (\\w+)\\([^)\n]*\\) \\{\n((?s).*?)^\\1}").matcher(code);
+        while (m.find()) {
+            if (bodies.put(m.group(2), m.group(3)) != null) {
+                say("two methods of one name, which the look at the depth takes for one: " + m.group(2));
+            }
+        }
+        if (bodies.size() < 60) {
+            say("the look at the depth found " + bodies.size() + " methods only");
+        }
+        for (String name : bodies.keySet()) {
+            int deep = depthFrom(name, bodies, new TreeSet<>());
+            if (deep > 8) {
+                say("calls from " + name + " go " + deep + " deep");
+            }
+        }
+    }
+
+    private static int depthFrom(String name, TreeMap<String, String> bodies, TreeSet<String> open) {
+        open.add(name);
+        int most = 0;
+        Matcher call = Pattern.compile("\\b(\\w+)\\(").matcher(bodies.get(name));
+        while (call.find()) {
+            String called = call.group(1);
+            if (bodies.containsKey(called) && !open.contains(called)) {
+                most = Math.max(most, depthFrom(called, bodies, open));
+            } else if (called.equals("min") || called.equals("max") || called.equals("bitCount")
+                    || called.equals("arraycopy")) {
+                most = Math.max(most, 1);
+            }
+        }
+        open.remove(name);
+        return most + 1;
+    }
+
+    /** Rules 5 and 11: what static fields may be, how many others a class may have, how many classes there may be. */
+    private static void fieldsOfClasses() {
+        Class<?>[] inside = TubeWords.class.getDeclaredClasses();
+        if (inside.length > 11) {
+            say("more than twelve classes");
+        }
+        fieldsOf(TubeWords.class);
+        for (Class<?> c : inside) {
+            fieldsOf(c);
+        }
+    }
+
+    private static void fieldsOf(Class<?> c) {
+        TreeSet<String> fine = new TreeSet<>(Arrays.asList("int", "long", "boolean", "char", "class java.lang.String",
+            "class [I", "class [J", "class [C", "class [B"));
+        int own = 0;
+        for (Field f : c.getDeclaredFields()) {
+            if (!Modifier.isStatic(f.getModifiers())) {
+                own++;
+            } else if (!Modifier.isFinal(f.getModifiers()) || !fine.contains(f.getType().toString())) {
+                say("a static field that rule 5 has not: " + f);
+            }
+        }
+        if (own > 20) {
+            say("more than twenty fields: " + c);
+        }
     }
 
     private static void methodLengths(String code) {
