@@ -66,6 +66,18 @@ public final class EdgesOfChances {
             Scene scene = Scene.store("t90t20").row(0, 0, 0, 9).then("row", 0, 2);
             Edge.due(call + "(0, 0)", scene.play().ask(call, 0, 0) > 0 ? 1 : 0, 1);
         });
+        Edge.test(promise + ": by what is in the ROW, whichever it is, of the TUBE, whichever it is", () -> {
+            // one SLOW TUBE, one of another LENGTH; a ROW of the number of each
+            Scene store = Scene.store("s30t51w40t20f61e72t90").words(5, 9, 3, 1, 33, 65, 257);
+            for (int i = 0; i < 7; i++) {
+                for (int r = 0; r < 6; r++) {
+                    Played x = store.row(r, 1, 0, 0).play();
+                    Played y = store.row((r + 1) % 6, 1, 0, 0).play();
+                    Edge.due(call + " of TUBE " + i, x.ask(call, i, r), y.ask(call, i, (r + 1) % 6));
+                    Edge.due("asked()", x.ask("asked"), y.ask("asked"));
+                }
+            }
+        });
         Edge.test(promise + ": one number, 20 numbers are taken", () -> {
             Scene bare = Scene.store("t90t20");
             Edge.due("one", bare.then("row", 0, 1).play().ask(call, 0, 0) > 0 ? 1 : 0, 1);
@@ -278,6 +290,24 @@ public final class EdgesOfChances {
             Edge.changesNothing(1, Scene.store("w20w20w20w20w20w20t20"), "duel", 1);
             Edge.changesNothing(1, Scene.store("t20w20w20w20w20w20w20"), "duel", 1);
             Edge.changesNothing(0, Scene.store("w20".repeat(7)), "duel", 1);
+        });
+        Edge.test("31: the other one takes one alone of many", () -> {
+            for (int tubes = 2; tubes <= 7; tubes++) {
+                Scene all = Scene.store("t20".repeat(tubes)).words(again(tubes, 1));
+                Edge.changesNothing(tubes, all, "duel", 1);
+                Edge.changesNothing(tubes - 1, all, "duel", 2);
+                Edge.changesNothing(tubes, all, "duel", 3);
+            }
+        });
+        Edge.test("31: any of seven TUBES is one to take from", () -> {
+            // all but one lose what is in SLOT 0 in TICK 0, so that one alone is worth giving to, and taking from
+            for (int i = 0; i < 7; i++) {
+                Scene one = Scene.store("w90".repeat(i) + "t90" + "w90".repeat(6 - i)).words(again(7, 1));
+                Edge.changesNothing(1, one, "duel", 0);
+                Edge.changesNothing(1, one, "duel", 1);
+                Edge.changesNothing(0, one, "duel", 2);
+                Edge.changesNothing(1, one, "duel", 3);
+            }
         });
         Edge.test("31: beyond 40 DEEDS, too: it is aside", () -> Edge.changesNothing(3, FULL_OF_DEEDS, "duel", 3));
     }

@@ -377,5 +377,10 @@ public final class EdgesOfWhatComes {
             Edge.tells(0, 3, Scene.store("t30t40").words(1), "safest", 1));
         Edge.test("27: one that does not MOVE has it again behind 1 TICK", () ->
             Edge.tells(1, 1, Scene.store("t30s30").then("tick"), "safest", 1));
+        Edge.test("27: such as its SLOTS can have, though one that does not MOVE would leave any", () -> {
+            Edge.changesNothing(Edge.NONE, Scene.store("s20s30").then("tick"), "safest", 8);
+            Edge.tells(1, 1, Scene.store("s20s30").then("tick"), "safest", 7);
+            Edge.tells(2, 4, Scene.store("s20s30t40").then("tick"), "safest", 8);
+        });
     }
 }
