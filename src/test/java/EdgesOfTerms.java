@@ -17,6 +17,7 @@ public final class EdgesOfTerms {
         atFirst();
         readyAndLost();
         limitOfDeeds();
+        limitOfCalls();
         Edge.end();
     }
 
@@ -550,6 +551,36 @@ public final class EdgesOfTerms {
             Scene late = Scene.store("f30t20").times(40, "tick");
             Edge.tells(5, 2, late, "later", 0, 59);
             Edge.tells(6, 2, late, "later", 0, 60);
+        });
+    }
+
+    private static void limitOfCalls() {
+        Edge.test("at most 512 calls: the 512th tells of 511 FINDINGS", () -> {
+            Played x = new Played();
+            for (int n = 0; n < 511; n++) {
+                x.ask("row", 0, -1);
+            }
+            Edge.due("findings(5)", x.ask("findings", 5), 511);
+        });
+        Edge.test("at most 512 calls: DEEDS done and undone 12 times are done and told as the first ones", () -> {
+            Played x = Scene.store("t30t40").play();
+            for (int round = 0; round < 12; round++) {
+                Edge.due("word(0, 5)", x.ask("word", 0, 5), 0);
+                for (int n = 0; n < 38; n++) {
+                    x.ask("tick");
+                }
+                Edge.due("tube(0, 3)", x.told("tube", 0, 3), 3);
+                Edge.due("undo(0)", x.ask("undo", 0), 39);
+            }
+        });
+        Edge.test("at most 512 calls: STORES laid anew again and again", () -> {
+            Played x = Scene.store("t30t40").play();
+            for (int n = 0; n < 240; n++) {
+                x.ask("tick");
+                Edge.due("store(0)", x.ask("store", 0), 2);
+            }
+            Edge.due("count(1)", x.ask("count", 1), 0);
+            Edge.due("count(2)", x.ask("count", 2), 0);
         });
     }
 }
